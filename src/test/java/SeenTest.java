@@ -30,6 +30,13 @@ public final class SeenTest {
         check.due("7th see", x.see(0, 0, 0), SpringBeads.FULL);
         check.due("7th see, bad", x.see(41, 0, 0), SpringBeads.BAD);
         check.due("count(0) then", x.count(0), 6);
+        check.due("kinds(0) of six that can't be", x.kinds(0), 0);
+        x.forget(0);
+        for (int i = 0; i < 6; i++) {
+            x.see(8 * i, 0, 30);
+        }
+        check.due("kinds(0) of six that are so", x.kinds(0), 15);
+        check.due("stiffs(0) of six that are so", x.stiffs(0), 1023);
     }
 
     private static void forgetting() {

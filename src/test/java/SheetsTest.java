@@ -5,6 +5,7 @@ public final class SheetsTest {
     public static void main(String[] args) {
         images();
         sheets();
+        eachSheet();
         laying();
         reading();
         tearing();
@@ -91,6 +92,24 @@ public final class SheetsTest {
         check.due("read of cells 0", x.read(0, 2, 0, 1), 1);
         check.due("bead 0", x.knock(1, 0), 0);
         check.due("by -9", x.knock(1, 1), 0);
+    }
+
+    private static void eachSheet() {
+        SpringBeads x = new SpringBeads();
+        for (int k = 0; k < 4; k++) {
+            check.due("sheet of its own " + k, x.sheet(k, k % 3, 2 + k), 1);
+        }
+        for (int k = 0; k < 4; k++) {
+            check.due("its last cell " + k, x.lay(k, 1 + k, 0), 1);
+            check.due("behind its last cell " + k, x.lay(k, 2 + k, 0), -12);
+            check.due("its bead " + k, x.lay(k, 0, k), 1);
+            check.due("its size " + k, x.lay(k, 1, 10 + k), 1);
+        }
+        for (int k = 0; k < 4; k++) {
+            check.due("read of its own " + k, x.read(k, k % 3, 0, 1), 1);
+            check.due("knock bead of its own " + k, x.knock(k, 0), k);
+            check.due("knock size of its own " + k, x.knock(k, 1), 10 + k);
+        }
     }
 
     private static void laying() {

@@ -67,6 +67,17 @@ public final class TextTest {
         check.due("text of what is kept", x.text(), 1);
         check.due("rule(3)", x.rule(3), 3);
         check.due("end(0) of nothing", x.end(0), 0);
+        Make.feed(x, "rope   ");
+        x.end(4);
+        check.due("what is cut off is read no more", x.text(), -14);
+        Make.feed(x, Make.repeat(" ", 153) + "drag 2;");
+        check.due("a full tape", x.text(), 1);
+        Make.feed(x, Make.repeat(" ", 160));
+        check.due("a tape full of blanks", x.text(), 0);
+        Make.feed(x, Make.repeat(" ", 156) + "drag");
+        check.due("a full tape that ends too soon", x.text(), -170);
+        Make.feed(x, Make.repeat(" ", 158) + "12");
+        check.due("a full tape that ends in a number", x.text(), -168);
     }
 
     private static void taken(String text, int lines) {
@@ -109,6 +120,9 @@ public final class TextTest {
         refused("drag 1:", 6, 1);
         refused("plains 1 1 1;", 0, 2);
         refused("plai 1 1 1;", 0, 2);
+        refused("xlain 1 1 1;", 0, 2);
+        refused("plaix 1 1 1;", 0, 2);
+        refused("in 1 1;", 0, 2);
         refused("plainrope 1 1 1;", 0, 2);
         refused(" ;", 1, 2);
         refused("4;", 0, 2);
@@ -176,6 +190,7 @@ public final class TextTest {
         x.keep(1);
         x.sheet(0, 2, 5);
         x.read(1, 0, 0, 1);
+        x.runs(50, 0);
         check.due("text()", Make.tell(x, "block 7 8 9;back 2 5;"), 2);
         check.due("fault() behind", x.fault(), 0);
         check.due("beads", x.rule(0), 1);

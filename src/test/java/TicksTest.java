@@ -7,6 +7,7 @@ public final class TicksTest {
         planOfKnocks();
         towardsZero();
         allByWhereTheyAreThen();
+        behindACut();
         dragThenBounds();
         knockBounds();
         ends();
@@ -94,6 +95,22 @@ public final class TicksTest {
         check.due("second, (0 - 100) by 20", x.bead(1, 5), 95);
         check.due("first place", x.bead(0, 4), 26);
         check.due("second place", x.bead(1, 4), 45);
+    }
+
+    /** The third one's pull is gone with it. */
+    private static void behindACut() {
+        SpringBeads x = new SpringBeads();
+        x.bind(0, 10, 0, 1);
+        x.bind(0, 10, 0, 1);
+        x.bind(0, 10, 9, 9);
+        x.alter(2, 4, 130);
+        x.ticks(1);
+        x.calm();
+        x.runs(1, 0);
+        x.cut(2);
+        check.due("ahead behind a cut", x.ahead(1, 1, 1), 100);
+        check.due("ticks behind a cut", x.ticks(1), 0);
+        check.due("rests behind a cut", x.rests(), 0);
     }
 
     private static void dragThenBounds() {
