@@ -621,10 +621,11 @@ public final class SpringBeads {
             return BAD;
         }
         int had = now.knocks;
-        int fault = sheets.faultAs(k, lane);
+        // Each knock takes the sheet as of the lane: where none is read, nothing is refused.
+        int fault = 0;
         int came = 0;
         for (int i = 0; i < n && fault == 0; i++) {
-            fault = sheets.faultOfPair(k, f, i);
+            fault = sheets.faultOfPair(k, lane, f, i);
             if (fault == 0) {
                 int from = f + 2 * i;
                 if (add(sheets.cells[k][from], sheets.cells[k][from + 1]) < 0) {
@@ -1190,13 +1191,16 @@ public final class SpringBeads {
         }
 
         /** A machine lets nothing pass as of any lane, and finds it only where a cell is asked of it. */
-        int faultAs(int k, int lane) {
+        private int faultAs(int k, int lane) {
             return isNothing(k) || laneOf[k] == lane ? 0 : CAST_FAULT;
         }
 
-        int faultOfPair(int k, int f, int pair) {
+        int faultOfPair(int k, int lane, int f, int pair) {
+            int fault = faultAs(k, lane);
+            if (fault == 0) {
+                fault = faultAt(k, f);
+            }
             // Once f is known to be a cell, what is counted from it can't wrap around.
-            int fault = faultAt(k, f);
             return fault != 0 ? fault : faultAt(k, f + 2 * pair + 1);
         }
     }

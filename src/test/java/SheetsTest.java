@@ -9,6 +9,7 @@ public final class SheetsTest {
         laying();
         reading();
         tearing();
+        readingNone();
         refusedReads();
         counting();
         check.end();
@@ -203,12 +204,27 @@ public final class SheetsTest {
         torn(x, 1, 2, 0, 1, 1, 0);
         torn(x, 1, 2, 2, 20, 1, 2);
         torn(x, 1, 2, 0, 0, 0, 0);
-        // What is nothing passes as of any lane, and of no knocks no cell is asked.
-        torn(x, 1, 2, 9, 1, 0, 2);
-        torn(x, 0, 2, 0, 0, 0, 0);
-        torn(x, 1, 0, 0, 0, 0, 3);
         SpringBeads half = withSheet(0, 7);
         torn(half, 1, 0, 0, 1, 0, 2);
+    }
+
+    /** Where no knock is read the machine refuses nothing, whatever the sheet is; a fault told before is gone. */
+    private static void readingNone() {
+        SpringBeads x = withSheet(2, 0, 0, 1, 1);
+        x.sheet(2, 0, 0);
+        for (int k = 0; k < 4; k++) {
+            for (int lane = 0; lane < 3; lane++) {
+                for (int f : new int[] {0, 3, 4, -1, Integer.MAX_VALUE, Integer.MIN_VALUE}) {
+                    torn(x, 1, 2, 9, 1, 0, 2);
+                    torn(x, k, lane, f, 0, 0, 0);
+                }
+            }
+        }
+        check.due("none came", x.rule(1), 0);
+        // One knock is enough for each fault: nothing as of any lane, another lane even without cells.
+        torn(x, 0, 1, 0, 1, 0, 1);
+        torn(x, 2, 1, 0, 1, 0, 3);
+        torn(x, 2, 0, 0, 1, 0, 2);
     }
 
     private static void refusedReads() {
