@@ -1,13 +1,14 @@
 import java.io.IOException;
 import java.nio.file.Path;
 
-/** Each sentence of the document that names a boundary case, at the bound and just beyond it. Run at the top. */
+/** Each sentence of the document; where it names a bound, at the bound and just beyond it. Run at the top. */
 public final class BoundsTest {
     private BoundsTest() {
     }
 
     public static void main(String[] args) throws IOException {
         Doc doc = new Doc(Path.of("../shared/DOC.md"));
+        SenseBounds.all(doc);
         TermsBounds.all(doc);
         TapeBounds.all(doc);
         TickBounds.all(doc);

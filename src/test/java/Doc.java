@@ -9,13 +9,13 @@ import java.util.regex.Pattern;
 
 /**
  * The document, whose sentences tests quote word by word: each check is under the sentence that was quoted last. In the
- * end each number and each BAD, STATE, FULL, NONE of the terms and promises must have been quoted by some test.
+ * end each word and each number of "What it is", the terms and the promises must have been quoted by some test.
  */
 final class Doc {
     static final int TERMS = 0;
     private static final int PROMISES = 42;
     private static final int BAD = SpringBeads.BAD;
-    private static final Pattern BOUND = Pattern.compile("\\d+|BAD|STATE|FULL|NONE");
+    private static final Pattern WORD = Pattern.compile("\\w+");
 
     private final Check check = new Check();
     private final String[] parts = new String[PROMISES + 1];
@@ -33,7 +33,7 @@ final class Doc {
                 int n = Integer.parseInt(title.substring(8, title.indexOf(':')));
                 parts[n] = body.replaceFirst("^ `[^`]*`: ", "");
             } else if (title.equals("What it is") || title.equals("Terms")) {
-                parts[TERMS] += body.replaceAll("=+ \\d ", "");
+                parts[TERMS] += body.replaceAll("=+ \\d |```text |``` ", "");
             }
         }
         for (int i = 0; i <= PROMISES; i++) {
@@ -125,10 +125,10 @@ final class Doc {
 
     void end() {
         for (int i = 0; i <= PROMISES; i++) {
-            Matcher bound = BOUND.matcher(parts[i]);
-            while (bound.find()) {
-                String near = parts[i].substring(Math.max(0, bound.start() - 30), bound.end());
-                check.holds("part " + i + ", a test quotes '.. " + near + "'", quoted[i][bound.start()]);
+            Matcher word = WORD.matcher(parts[i]);
+            while (word.find()) {
+                String near = parts[i].substring(Math.max(0, word.start() - 30), word.end());
+                check.holds("part " + i + ", a test quotes '.. " + near + "'", quoted[i][word.start()]);
             }
             check.holds("part " + i + " is in the document and quoted", anyOf(quoted[i]));
         }

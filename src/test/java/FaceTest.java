@@ -15,16 +15,16 @@ import java.util.regex.Pattern;
 /** The document's public face, and those rules of LANGUAGE.md that can be seen from outside. Run at the top. */
 public final class FaceTest {
     private static final Check check = new Check();
-    private static final Set<String> FACE = new TreeSet<>(List.of(
-            "int feed(1)", "int end(1)", "int text(0)", "int fault(0)", "int rule(1)", "int bead(2)", "int knock(2)",
-            "int alter(3)", "int drag(1)", "int bind(4)", "int cut(1)", "int hit(2)", "int add(2)", "int drop(1)",
-            "int calm(0)", "int ticks(1)", "int runs(2)", "int ahead(3)", "int when(2)", "int rests(0)",
-            "int stiff(3)", "int rest(3)", "int kind(3)", "int mass(3)", "int swap(2)", "int miss(2)",
-            "long luck(4)", "long mean(3)", "int see(3)", "int forget(1)", "int kinds(1)", "int stiffs(1)",
-            "int ask(2)", "int drift(3)", "int keep(1)", "int back(1)", "int sheet(3)", "int lay(3)", "int read(4)",
-            "int torn(0)", "int count(1)"));
+    private static final String SOURCE = "src/main/java/SpringBeads.java";
+    private static final Pattern CALL = Pattern.compile("    public (int|long) (\\w+)\\(([^)]*)\\);");
+    private static final int CALLS = 41;
+    /** The calls as the document's face has them: what each answers, its name, how many numbers it takes. */
+    private static final Set<String> FACE = new TreeSet<>();
 
     public static void main(String[] args) throws IOException {
+        List<String> told = faceTold(Files.readString(Path.of("../shared/DOC.md")));
+        faceWritten(told);
+        promises(told);
         face();
         constants();
         classesInside();
@@ -34,6 +34,45 @@ public final class FaceTest {
 
     private static boolean isPrivate(Member m) {
         return Modifier.isPrivate(m.getModifiers());
+    }
+
+    /** The lines of the document's face; its calls are put into FACE. */
+    private static List<String> faceTold(String document) {
+        int from = document.indexOf("```java\n", document.indexOf("## The public face")) + 8;
+        List<String> told = document.substring(from, document.indexOf("```", from)).lines().toList();
+        for (String line : told) {
+            Matcher call = CALL.matcher(line);
+            if (call.matches()) {
+                int numbers = call.group(3).isEmpty() ? 0 : call.group(3).split(",").length;
+                FACE.add(call.group(1) + " " + call.group(2) + "(" + numbers + ")");
+            }
+        }
+        check.due("calls of the document's face", FACE.size(), CALLS);
+        return told;
+    }
+
+    /** Each line of the document's face stands in the class, in that order and with those names of numbers. */
+    private static void faceWritten(List<String> told) throws IOException {
+        List<String> written = Files.readString(Path.of(SOURCE)).lines().filter(line -> line.matches(" {0,4}public .*|\\}"))
+                .map(line -> line.replaceFirst("\\) \\{$", ");")).toList();
+        check.holds("the face is written as told: " + told + ", not " + written, told.equals(written));
+    }
+
+    /** The document's promises are of the calls of its face, one each, and the class bears their numbers. */
+    private static void promises(List<String> told) throws IOException {
+        String document = Files.readString(Path.of("../shared/DOC.md"));
+        String source = Files.readString(Path.of(SOURCE));
+        // The class's own line and that of the constants come first, its end last.
+        List<String> makers = told.subList(2, told.size() - 1);
+        check.due("promises", makers.size(), CALLS + 1);
+        for (int i = 0; i < makers.size(); i++) {
+            String head = makers.get(i).trim().replaceFirst("^public ", "").replaceFirst(";$", "");
+            int title = document.indexOf("## Promise " + (i + 1) + ":");
+            check.holds("promise " + (i + 1) + " is of " + head,
+                    title >= 0 && document.indexOf("`" + head + "`:", title) == document.indexOf("`", title));
+            check.holds(head + " bears the number " + (i + 1),
+                    source.contains("    /** " + (i + 1) + ". */\n    public " + head + " {\n"));
+        }
     }
 
     private static void face() {
@@ -85,7 +124,7 @@ public final class FaceTest {
     }
 
     private static void source() throws IOException {
-        String whole = Files.readString(Path.of("src/main/java/SpringBeads.java"));
+        String whole = Files.readString(Path.of(SOURCE));
         check.holds("signs 1 to 127", whole.chars().allMatch(c -> c > 0 && c < 128));
         String code = whole.replaceAll("(?s)/\\*.*?\\*/", "").replaceAll("//[^\n]*", "");
         String[] never = {"\\bthrow\\b", "\\btry\\b", "\\bcatch\\b", "\\bsynchronized\\b", "\\bassert\\b", "->", "::",

@@ -202,6 +202,11 @@ final class RunBounds {
         // A push that does not come to one place moves nothing: 9 by 10; 10 by 10 does.
         doc.due(new Subject().with("bind", 0, 50, 9, 1).put(0, 51, 0), 0, "rests");
         doc.holds("10 by 10 moves", new Subject().with("bind", 0, 50, 5, 1).put(0, 52, 0).ask("rests") != 0);
+        // A push that an end takes whole: 80 by 10 moves the last one beyond 300, 80 by 90 the first one not at all.
+        Subject held = new Subject().with("bind", 0, 60, 0, 9).with("bind", 0, 60, 8, 1).put(0, 250, 0).put(1, 300, 0);
+        doc.due(held, 9920, "bead", 1, 7);
+        doc.due(held, 0, "rests");
+        doc.due(held, 1, "runs", 1, 3);
         doc.of(21, "NONE: behind none.");
         doc.due(going(100, 1), NONE, "rests");
         doc.due(going(200, -1), NONE, "rests");

@@ -33,7 +33,7 @@ final class TermsBounds {
     }
 
     private static void answers(Doc doc) {
-        doc.of(Doc.TERMS, "BAD -1 (a number is not as told, there is no such BEAD, KNOCK, IMAGE, SHEET)");
+        doc.of(Doc.TERMS, "Answers: BAD -1 (a number is not as told, there is no such BEAD, KNOCK, IMAGE, SHEET)");
         doc.due("BAD", BAD, -1);
         doc.refusedIn(State.BUSY, -1, "drag", 4);
         doc.refusedIn(State.BUSY, -1, "bead", 3, 0);
@@ -175,7 +175,7 @@ final class TermsBounds {
             doc.due(Subject.told(name + " 1 1 1;"), kind, "bead", 0, 0);
             kind++;
         }
-        bounds(doc, "a REST (0 to 60)", 1, 0, 60);
+        bounds(doc, "with a REST (0 to 60)", 1, 0, 60);
         bounds(doc, "a STIFF (0 to 9)", 2, 0, 9);
         bounds(doc, "a MASS (1 to 9)", 3, 1, 9);
     }
@@ -307,7 +307,7 @@ final class TermsBounds {
     }
 
     private static void faultsOfSheets(Doc doc) {
-        doc.of(Doc.TERMS, "1 NULL (nothing)");
+        doc.of(Doc.TERMS, "A FAULT is what the machine finds: 1 NULL (nothing)");
         torn(doc, new Subject(), 1, 3, 0, 0, 1);
         doc.refusedIn(State.BUSY, -11, "lay", 3, 0, 0);
         doc.of(Doc.TERMS, "2 INDEX");

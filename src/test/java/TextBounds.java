@@ -161,7 +161,7 @@ final class TextBounds {
     }
 
     private static void bead(Doc doc) {
-        doc.of(7, "0 KIND, 1 REST, 2 STIFF, 3 MASS");
+        doc.of(7, "Of a BEAD: 0 KIND, 1 REST, 2 STIFF, 3 MASS");
         for (int b = 0; b < 4; b++) {
             int[] want = {b, 60, 9, 9 - b};
             for (int what = 0; what < 4; what++) {
@@ -190,7 +190,7 @@ final class TextBounds {
     }
 
     private static void knock(Doc doc) {
-        doc.of(8, "0 its BEAD, 1 9 more than by how much.");
+        doc.of(8, "Of a KNOCK: 0 its BEAD, 1 9 more than by how much.");
         for (int i = 0; i < 12; i++) {
             doc.dueIn(State.BRIM, i % 4, "knock", i, 0);
             doc.dueIn(State.BRIM, 18 - i, "knock", i, 1);
